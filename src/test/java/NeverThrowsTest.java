@@ -68,7 +68,7 @@ public final class NeverThrowsTest {
     for (int i = 0; i < 12; i++) all.append(x.lawful(i)).append(' ');
     for (int i = 0; i < 8; i++) for (int what = 0; what < 6; what++) all.append(x.about(i, what)).append(' ');
     for (int s = 0; s < 4; s++) {
-      for (int r = 0; r < 100; r++) all.append(x.at(s, r)).append(' ');
+      for (int r = 0; r < 100; r += 3) all.append(x.at(s, r)).append(' ');
       all.append(x.odds(s, true)).append(' ').append(x.odds(s, false)).append(' ');
     }
     return all.append(x.fault(true)).append(' ').append(x.fault(false)).toString();
@@ -91,23 +91,23 @@ public final class NeverThrowsTest {
     }
   }
 
+  /** Two objects of the same calls; one more call on the first of them, and they must still look alike if it was refused. */
   private void refused() {
+    long begin = seed;
+    IceAtTheMiddle other = someObject();
+    seed = begin;
     IceAtTheMiddle x = someObject();
-    String before = picture(x);
-    for (int i = 0; i < 60; i++) {
-      int which = upTo(40);
-      long answer = call(x, which);
-      String now = picture(x);
-      boolean changes = which < 2 || which == 3 || which == 5 || which == 6 || which == 20 || which == 21 || which == 25 || which == 38;
-      Due.holds("call " + which + " answered " + answer + " and changed nothing", changes && answer >= 0 || now.equals(before));
-      before = now;
-    }
+    int which = upTo(40);
+    long answer = call(x, which);
+    boolean changes = which < 2 || which == 3 || which == 5 || which == 6 || which == 20 || which == 21 || which == 25 || which == 38;
+    boolean mayChange = changes && answer >= 0;
+    Due.holds("call " + which + " answered " + answer + " and changed nothing", mayChange || picture(x).equals(picture(other)));
   }
 
   public static void main(String[] args) {
     NeverThrowsTest t = new NeverThrowsTest();
     for (int i = 0; i < 300; i++) t.goOn();
-    for (int i = 0; i < 60; i++) t.refused();
+    for (int i = 0; i < 4000; i++) t.refused();
     Due.end("NeverThrowsTest");
   }
 }
