@@ -526,10 +526,12 @@ final class BedEdges {
     int[][] like = {{10, 1, 2}, {13, 1, 0}, {10, 2, 8}};
     for (int[] b : like) seventh.bed(0, b[0], 0, 99, b[1], b[2]);
     Edge.due("there is no seventh", seventh.mover(), 1);
-    // One has all: 1000000, and 250000 without BED 1; BED 0 says nothing.
-    IceAtTheMiddle all = withBands(1, 1, 1, 1);
-    all.bed(0, 0, 0, 99, 5, 10);
+    // STORY 0 has all: 1000000, but 833333 without BED 0, 500000 without BED 1.
+    IceAtTheMiddle all = withBands(5, 1, 5, 0);
+    Due.tell(all, 0, "00:01");
+    Due.tell(all, 2, "00:0");
     all.bed(0, 6, 0, 99, 0, 10);
+    all.bed(0, 6, 0, 99, 1, 10);
     Edge.due("from a whole million", all.mover(), 1);
   }
 

@@ -264,6 +264,14 @@ final class EarthEdges {
     runOf(Due.withLaw("V9"), 63, 0, 11, 1, 0, 99, 99);
     runOf(Due.withLaw("W9"), 0, 99, 2, 1, 0, 0, 0);
     runOf(Due.withLaw("F99"), 0, 99, 1, 1, 1, 99, 99);
+    // What an earlier RUN left is nothing to the next one.
+    IceAtTheMiddle one = Due.withLaw("V1");
+    one.run(0, 0, 0);
+    Due.text(one, BREATHING);
+    one.law();
+    Edge.due("the greatest AIR behind a longer RUN", one.run(63, 0, 4), 16);
+    runOf(one, 0, 99, 20, 20, 16, 0, 16);
+    runOf(one, 63, 0, 0, 20, 16, 0, 16);
 
     Edge.promises(13, "OUTSIDE.");
     IceAtTheMiddle x = new IceAtTheMiddle();
