@@ -57,6 +57,19 @@ final class Due {
     x.story(story);
   }
 
+  /** What an object tells of its state without a change to it, in few enough calls that two pictures have room. */
+  static String picture(IceAtTheMiddle x) {
+    StringBuilder all = new StringBuilder();
+    for (int what = 0; what < 4; what++) all.append(x.count(what)).append(' ');
+    for (int what = 0; what < 12; what++) all.append(x.lawful(what)).append(' ');
+    for (int bed = 0; bed < 8; bed++) for (int what = 0; what < 6; what++) all.append(x.about(bed, what)).append(' ');
+    for (int story = 0; story < 4; story++) {
+      for (int round = 0; round < 100; round += 3) all.append(x.at(story, round)).append(' ');
+      all.append(x.odds(story, true)).append(' ').append(x.odds(story, false)).append(' ');
+    }
+    return all.append(x.fault(true)).append(' ').append(x.fault(false)).toString();
+  }
+
   static void end(String test) {
     System.out.println(test + ": " + asked + " answers, " + wrong + " not as due");
     if (wrong != 0) {

@@ -61,19 +61,6 @@ public final class NeverThrowsTest {
     }
   }
 
-  /** All that can be asked of an object without a change to it. */
-  private static String picture(IceAtTheMiddle x) {
-    StringBuilder all = new StringBuilder();
-    for (int i = 0; i < 4; i++) all.append(x.count(i)).append(' ');
-    for (int i = 0; i < 12; i++) all.append(x.lawful(i)).append(' ');
-    for (int i = 0; i < 8; i++) for (int what = 0; what < 6; what++) all.append(x.about(i, what)).append(' ');
-    for (int s = 0; s < 4; s++) {
-      for (int r = 0; r < 100; r += 3) all.append(x.at(s, r)).append(' ');
-      all.append(x.odds(s, true)).append(' ').append(x.odds(s, false)).append(' ');
-    }
-    return all.append(x.fault(true)).append(' ').append(x.fault(false)).toString();
-  }
-
   private IceAtTheMiddle someObject() {
     IceAtTheMiddle x = Due.withLaw("L040L138L234L328L420L514R4G1F22M2V3W1");
     Due.tell(x, 1, "10:0;50:012345;60:");
@@ -101,7 +88,7 @@ public final class NeverThrowsTest {
     long answer = call(x, which);
     boolean changes = which < 2 || which == 3 || which == 5 || which == 6 || which == 20 || which == 21 || which == 25 || which == 38;
     boolean mayChange = changes && answer >= 0;
-    Due.holds("call " + which + " answered " + answer + " and changed nothing", mayChange || picture(x).equals(picture(other)));
+    Due.holds("call " + which + " answered " + answer + " and changed nothing", mayChange || Due.picture(x).equals(Due.picture(other)));
   }
 
   public static void main(String[] args) {

@@ -87,19 +87,6 @@ final class TermEdges {
     Edge.due("STATE alone", x.again(1), STATE);
   }
 
-  /** All that an object tells of its state without a change to it. */
-  private static String picture(IceAtTheMiddle x) {
-    StringBuilder all = new StringBuilder();
-    for (int what = 0; what < 4; what++) all.append(x.count(what)).append(' ');
-    for (int what = 0; what < 12; what++) all.append(x.lawful(what)).append(' ');
-    for (int bed = 0; bed < 8; bed++) for (int what = 0; what < 6; what++) all.append(x.about(bed, what)).append(' ');
-    for (int story = 0; story < 4; story++) {
-      for (int round = 0; round < 100; round += 9) all.append(x.at(story, round)).append(' ');
-      all.append(x.odds(story, true)).append(' ').append(x.odds(story, false)).append(' ');
-    }
-    return all.append(x.fault(true)).append(' ').append(x.fault(false)).toString();
-  }
-
   private interface Change {
     int of(IceAtTheMiddle x);
   }
@@ -112,9 +99,9 @@ final class TermEdges {
     x.weight(1, 7);
     for (int i = 0; i < beds; i++) x.bed(i % 4, i, i, 90 + i, i % 6, i);
     Due.text(x, text);
-    String before = picture(x);
+    String before = Due.picture(x);
     Edge.due("it is refused", change.of(x), refusal);
-    Edge.due("all is as it was", before.equals(picture(x)) ? 1 : 0, 1);
+    Edge.due("all is as it was", before.equals(Due.picture(x)) ? 1 : 0, 1);
   }
 
   private static void nothingChanges() {
